@@ -1105,9 +1105,12 @@ public final class DeadMonday {
         private int gauge = 0;
         private final long[] names = new long[NAMES];
         private final int[] sums = new int[MOST_ROOMS];
-        // the latest LIKING of each of the DEAD for each THING, and by what it was so: a law is dear
+        // the latest LIKING of each of the DEAD for each THING, as a law is dear to work out, and all
+        // by which it could differ as one number: TASTE (below 16), GAUGE (128), MONDAY (16384), WARM
         private final long[] reasons = new long[MOST_DEAD * MOST_THINGS];
         private final int[] liked = new int[MOST_DEAD * MOST_THINGS];
+        private long dayReason = 0;
+        private boolean byWarmth = false;
 
         Course(House in, Stand as) {
             house = in;
@@ -1145,6 +1148,10 @@ public final class DeadMonday {
             } else {
                 gauge = house.glassOf(stand.monday);
             }
+            Law law = house.like;
+            dayReason = (law.looksAt(NAME_GAUGE) ? gauge * 16L : 0)
+                + (law.looksAt(NAME_MONDAY) ? stand.monday * 2048L : 0);
+            byWarmth = law.looksAt(NAME_WARM);
         }
 
         void pass(int mondays) {
@@ -1194,12 +1201,14 @@ public final class DeadMonday {
         /** Where one SITS, or NONE. */
         int seat(int dead) {
             Arrays.fill(sums, 0);
-            for (int t = 0; t < house.told(THING); t++) {
+            int things = house.told(THING);
+            for (int t = 0; t < things; t++) {
                 int room = stand.at[t];
-                if (house.has(ROOM, room) && !stand.isRoped(room)) sums[room] += likes(dead, t, room);
+                if (room >= 0 && room < MOST_ROOMS && !stand.isRoped(room)) sums[room] += likes(dead, t, room);
             }
             int best = NONE;
-            for (int r = 0; r < house.told(ROOM); r++) {
+            int rooms = house.told(ROOM);
+            for (int r = 0; r < rooms; r++) {
                 if (!stand.isRoped(r) && (best == NONE || sums[r] > sums[best])) best = r;
             }
             return best;
@@ -1208,7 +1217,8 @@ public final class DeadMonday {
         private int leastLiked(int dead, int room) {
             int best = NONE;
             int least = 0;
-            for (int t = 0; t < house.told(THING); t++) {
+            int things = house.told(THING);
+            for (int t = 0; t < things; t++) {
                 if (stand.at[t] != room) continue;
                 int liking = likes(dead, t, room);
                 if (best == NONE || liking < least) {
@@ -1221,9 +1231,9 @@ public final class DeadMonday {
 
         /** LIKING for a THING, were it in this ROOM. */
         int likes(int dead, int thing, int room) {
+            if (dead < 0 || dead >= MOST_DEAD || thing < 0 || thing >= MOST_THINGS) return 0;
             int slot = dead * MOST_THINGS + thing;
-            if (!house.has(DEAD, dead) || !house.has(THING, thing) || slot >= liked.length) return 0;
-            long reason = reasonOf(dead, room);
+            long reason = dayReason + tasteOf(dead) + (byWarmth ? warmth(room) * 33554432L : 0);
             if (reasons[slot] != reason) {
                 tellNames(dead, thing, room);
                 long value = house.like.work(names);
@@ -1231,16 +1241,6 @@ public final class DeadMonday {
                 reasons[slot] = reason;
             }
             return liked[slot];
-        }
-
-        /** All by which LIKING for one THING may differ, as one number. */
-        private long reasonOf(int dead, int room) {
-            Law law = house.like;
-            long reason = tasteOf(dead);
-            if (law.looksAt(NAME_GAUGE)) reason += gauge * 16L;
-            if (law.looksAt(NAME_MONDAY)) reason += stand.monday * 2048L;
-            if (law.looksAt(NAME_WARM)) reason += warmth(room) * 33554432L;
-            return reason;
         }
 
         private int plainLiking(int dead, int thing) {

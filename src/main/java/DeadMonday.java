@@ -12,6 +12,7 @@ public final class DeadMonday {
 
     private static final int MOST_BYTES = 700;
     private static final int MOST_ROOMS = 6;
+    private static final int MOST_DOORS = 9;
     private static final int MOST_THINGS = 8;
     private static final int MOST_DEAD = 6;
     private static final int MOST_GLASSES = 9;
@@ -68,15 +69,13 @@ public final class DeadMonday {
     private final int[] tape = new int[MOST_BYTES];
     private int taped = 0;
     private House house = new House();
-    // a TEXT is read into this one, so that all stays with a FAULT
-    private House spare = new House();
-    private final Reader reader = new Reader(spare);
+    private final Reader reader = new Reader();
     private final Stand stand = new Stand();
     private final Stand image = new Stand();
     private boolean imaged = false;
     // Mondays that are only asked about go by on this one
     private final Stand trial = new Stand();
-    private final Course course = new Course(house, stand);
+    private final Course course = new Course();
     private final Notes notes = new Notes();
     private final Strokes strokes = new Strokes();
     private final Hanger hanger = new Hanger();
@@ -109,10 +108,8 @@ public final class DeadMonday {
     public int text(int n) {
         if (n < 0 || n > taped) return NOT_SO;
         taped = 0;
-        if (!reader.read(tape, n, spare)) return NONE;
-        House told = spare;
-        spare = house;
-        house = told;
+        if (!reader.read(tape, n)) return NONE;
+        house = reader.trade(house);
         stand.enter(house);
         notes.clear();
         strokes.clear();
@@ -486,7 +483,7 @@ public final class DeadMonday {
     // ---- NOTES, and what taste one had by them
 
     public int note(int mondays, int thing, int room, boolean is) {
-        if (mondays < 1 || mondays > Notes.LAST_MONDAY) return NONE;
+        if (mondays < 1 || mondays > Notes.FARTHEST) return NONE;
         if (!house.has(THING, thing) || !house.has(ROOM, room)) return NONE;
         return notes.add(mondays, thing, room, is);
     }
@@ -811,12 +808,13 @@ public final class DeadMonday {
     private static final class Reader {
         static final int LARGEST_NUMBER = 9999;
         static final int COMPARING = 4;
-        private static final int[] MOST = {MOST_ROOMS, 9, MOST_THINGS, MOST_DEAD, MOST_GLASSES, 1};
+        private static final int[] MOST = {MOST_ROOMS, MOST_DOORS, MOST_THINGS, MOST_DEAD, MOST_GLASSES, 1};
 
         int fault = 0;
         int place = NONE;
         private final Tokens tokens = new Tokens();
-        private House house;
+        // a TEXT is read into one of its own, so that all stays with a FAULT
+        private House house = new House();
         // the latest number or ROOM that was read
         private int taken = 0;
         // signs, words and '(' of E for which what is behind them isn't read yet
@@ -824,14 +822,9 @@ public final class DeadMonday {
         private int waits = 0;
         private int open = 0;
 
-        Reader(House into) {
-            house = into;
-        }
-
-        boolean read(int[] tape, int n, House into) {
+        boolean read(int[] tape, int n) {
             fault = 0;
             place = NONE;
-            house = into;
             house.clear();
             tokens.cut(tape, n);
             for (int k = 0; k <= MOST_BYTES && tokens.sort != END; k++) {
@@ -841,6 +834,13 @@ public final class DeadMonday {
                 tokens.next();
             }
             return true;
+        }
+
+        /** Gives what was read, and takes another one for the next TEXT. */
+        House trade(House old) {
+            House told = house;
+            house = old;
+            return told;
         }
 
         private boolean fail(int what) {
@@ -1100,8 +1100,9 @@ public final class DeadMonday {
         // the last number of MONDAYS by chance
         long number = 0;
         private boolean drawn = false;
-        private House house;
-        private Stand stand;
+        // begin() puts those of each call in their place
+        private House house = new House();
+        private Stand stand = new Stand();
         private int gauge = 0;
         private final long[] names = new long[NAMES];
         private final int[] sums = new int[MOST_ROOMS];
@@ -1112,9 +1113,7 @@ public final class DeadMonday {
         private long dayReason = 0;
         private boolean byWarmth = false;
 
-        Course(House in, Stand as) {
-            house = in;
-            stand = as;
+        Course() {
             Arrays.fill(reasons, NONE);
         }
 
@@ -1266,7 +1265,7 @@ public final class DeadMonday {
             return room >= 0 && room < MOST_ROOMS ? stand.warm[room] : 0;
         }
 
-        /** A law's E as it is, were the THING in this ROOM (NONE, NONE of come). */
+        /** A law's E as it is, were the THING in this ROOM (of come both are NONE). */
         long value(int what, int dead, int thing, int room) {
             tellNames(dead, thing, room);
             return house.lawOf(what).work(names);
@@ -1287,7 +1286,7 @@ public final class DeadMonday {
 
     /** What was told of where THINGS were, and what of it is struck. */
     private static final class Notes {
-        static final int LAST_MONDAY = 30;
+        static final int FARTHEST = 30;
 
         int size = 0;
         // NONE: by all, those to come too
@@ -1341,7 +1340,7 @@ public final class DeadMonday {
             for (int k = 0; k < knownBy(); k++) {
                 if (!struck[k] && strikes[k] == NONE) last = Math.max(last, mondays[k]);
             }
-            for (int monday = 1; monday <= last && monday <= LAST_MONDAY; monday++) {
+            for (int monday = 1; monday <= last && monday <= FARTHEST; monday++) {
                 course.pass(1);
                 if (!areSo(monday, stand)) return false;
             }

@@ -544,6 +544,14 @@ public final class MondayTest {
         Check.due("the seeds' ends", y.chance(0, 2, 0, 1) + y.chance(Integer.MAX_VALUE, 2, 0, 1), 20);
         Check.due("sixty", y.chance(7, 60, 0, 1) * 100 + y.chance(7, 60, 0, 0), 1000);
         Check.same("nothing changes", Check.seen(y), seen);
+        DeadMonday z = Check.house(TO_AND_FRO + "glass 3;glass 4;law like gauge+warm;law bear gauge*2;law come gauge;");
+        seen = Check.seen(z) + z.comes() + z.ahead(5, 1, 0) + z.sits(0) + z.liking(0, 0);
+        Check.due("by some gauge", z.chance(7, 60, 0, 1) >= 0, true);
+        Check.same("nor by the gauge", Check.seen(z) + z.comes() + z.ahead(5, 1, 0) + z.sits(0) + z.liking(0, 0), seen);
+        z.chance(7, 60, 0, 1);
+        Check.due("liking", z.liking(0, 0), 3);
+        z.chance(7, 60, 0, 1);
+        Check.due("law", z.law(2, 0, 0), 3);
         // each of the ten begins with what is so now
         DeadMonday x = Check.house(TO_AND_FRO + "law come 1;");
         Check.due("one", x.chance(3, 1, 0, 1), 10);

@@ -162,6 +162,40 @@ public final class NoteTest {
         Check.due("by when it comes", q.tastes(0), 7 << 4);
     }
 
+    @Says("in place of its own, by which all KNOWN ones are so.")
+    static void eachTasteByItself() {
+        // moved twice by a taste 1, 2, never by a later one (and once by 0, which likes nothing, so that it sits on in a):
+        // what one taste likes says nothing of the next one
+        for (String by : new String[] {"gauge", "monday"}) {
+            DeadMonday x = Check.house("room a;room b;door a b;thing t a 0 5;dead d 9 1 0 0;glass 49;glass 50;law like taste*10+" + by + "*0;");
+            x.note(2, 0, 0, true);
+            Check.due("by " + by, x.tastes(0), ALL - 1);
+        }
+        // a taste 0 sits in a by t, another one in b by u, which it takes to a
+        DeadMonday y = Check.house("room a;room b;door a b;thing t a 0 0;thing u b 1 0;dead d 9 1 0 0;law like (kind=0 and taste=0)*50+(kind=1)*20+warm*0;");
+        y.note(1, 0, 0, true);
+        Check.due("t is never moved", y.tastes(0), ALL);
+        y.note(1, 1, 0, true);
+        Check.due("u is by all but taste 0", y.tastes(0), ALL - 1);
+    }
+
+    @Says("a THING was in a ROOM, or not.")
+    static void eachThing() {
+        DeadMonday x = Check.house(Check.FULL);
+        for (int t = 0; t < 8; t++) {
+            int at = x.ahead(20, 0, t);
+            for (int r = 0; r < 6; r++) {
+                DeadMonday y = Check.house(Check.FULL);
+                y.note(20, t, r, true);
+                Check.due("its own taste fits", (y.tastes(1) >> 9 & 1) == 1, r == at);
+                DeadMonday z = Check.house(Check.FULL);
+                z.note(20, t, r, false);
+                Check.due("or not", (z.tastes(1) >> 9 & 1) == 1, r != at);
+                Check.due("one or the other", y.tastes(1) + z.tastes(1), ALL);
+            }
+        }
+    }
+
     // ---- promises 31 to 34
 
     @Says(promise = 31, value = "A NOTE: its number;")

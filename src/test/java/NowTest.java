@@ -360,6 +360,18 @@ public final class NowTest {
         Check.due("at first", y.liking(0, 0), 15);
         y.go(1);
         Check.due("a warm room, another monday and glass", y.liking(0, 0), 40);
+        String one = "room a;thing t a 3 7;dead d 4 3 0 0;law bear 0;";
+        DeadMonday z = Check.house(one + "law like 10+monday;");
+        DeadMonday w = Check.house(one + "glass 7;glass 8;glass 7;law like gauge;");
+        DeadMonday v = Check.house(one + "law like 10+warm;");
+        for (int m = 0; m < 4; m++) {
+            Check.due("by the monday alone", z.liking(0, 0), 10 + m);
+            Check.due("by the glass alone", w.liking(0, 0), 7 + m % 3 % 2);
+            Check.due("by the warmth alone", v.liking(0, 0), 10 + m);
+            z.go(1);
+            w.go(1);
+            v.go(1);
+        }
         y.hang(0, 1);
         Check.due("in a room that isn't warm", y.liking(0, 0), 37);
         y.hang(0, 0);

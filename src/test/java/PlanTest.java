@@ -23,6 +23,15 @@ public final class PlanTest {
         Check.due("five liked", x.hanging(4), 250);
         x.hang(4, 0);
         Check.due("both in a", hung(x) * 1000 + x.hanging(4), 300);
+        // all four to b, but e is best by what stays in a
+        DeadMonday two = Check.house("room a;room b;thing t a 0 0;thing u a 0 0;thing v a 0 0;thing w a 0 0;thing x b 0 0;thing y a 1 0;"
+            + "dead d 0 0 0 0;dead e 0 1 0 0;law like (kind=fond)*10;");
+        Check.due("d by five, e by one", hung(two) * 1000 + two.hanging(4), 1111060);
+        // as much of all as there may be
+        DeadMonday full = Check.house(Check.FULL + "law like 10+warm;law bear 0;");
+        Check.due("all to f, where three are", hung(full) * 1000 + full.hanging(4), 5555000 + 6 * 7 * 10);
+        full.rope(5, true);
+        Check.due("all to e, where one is", hung(full) * 1000 + full.hanging(4), 4444000 + 6 * 5 * 10);
         // just five: the fifth one stays
         DeadMonday y = Check.house("room a;room b;thing t a 0 0;thing u a 0 0;thing v a 0 0;thing w a 0 0;thing x b 0 0;dead d 0 1 0 0;");
         Check.due("to the fifth", hung(y) * 1000 + y.hanging(4), 1111250);
@@ -254,7 +263,13 @@ public final class PlanTest {
     @Says(promise = 25, value = "The k-th: ten times FACTION 0's ROOM and FACTION 1's;")
     static void kthRest() {
         DeadMonday x = Check.house("room a;room b;room c;room d;room e;room f;thing t f 0 0;thing u e 1 0;dead d 0 0 0 0;dead e 0 1 1 0;law like (kind=fond)*50;");
-        Check.due("f and e", x.rests() * 100 + x.rest(0), 154);
+        Check.due("f and e", x.rest(0), 54);
+        Check.due("one", x.rests(), 1);
+        x.ahead(3, 1, 0);
+        x.hang(1, 0);
+        Check.due("f and a", x.rest(0), 50);
+        DeadMonday full = Check.house(Check.FULL + "law like (age=9 and taste<7)*50+(age=8 and taste=7)*50;");
+        Check.due("b and d", full.rest(0), 13);
         Check.due("from 0 on", Check.house("room a;").rest(0), 0);
     }
 
@@ -405,7 +420,9 @@ public final class PlanTest {
         Check.due("none", Check.house(NowTest.HALL).shunned(), 0);
         Check.due("of a new object", new DeadMonday().shunned(), 0);
         Check.due("what nobody likes, if there is nobody", Check.house("room a;thing t a 0 9;thing u a 0 9;").shunned(), 3);
+        Check.due("though there is no other one to like it", Check.house("room a;thing t a 0 0;").shunned(), 1);
         Check.due("no things", Check.house("room a;dead d 0 0 0 0;").shunned(), 0);
+        Check.due("of all that there may be", Check.house(Check.FULL + "law like 29+(age=6 and taste=7);").shunned(), 127);
         String eight = "room a;";
         for (char c = 'a'; c <= 'h'; c++) eight += "thing t" + c + " a 0 " + (c == 'h' ? 9 : 0) + ";";
         Check.due("the eighth", Check.house(eight + "dead d 0 1 0 0;").shunned(), 128);
@@ -437,6 +454,10 @@ public final class PlanTest {
         DeadMonday y = Check.house("room a;thing t a 0 9;thing u a 0 9;dead a 0 0 0 0;dead b 0 0 0 0;dead c 0 0 0 0;dead d 0 0 0 0;"
             + "dead e 0 0 0 0;dead f 0 0 0 0;law like 99;");
         Check.due("six times 99", y.loved(1), 594);
+        DeadMonday z = Check.house("room a;thing t a 0 9;dead d 0 1 0 0;");
+        Check.due("the only one, though hardly", z.loved(0) * 10 + z.loved(1), 5);
+        DeadMonday full = Check.house(Check.FULL + "law like 10+(age=6 and taste=7);");
+        Check.due("the last of eight by the last of six", full.loved(0) * 100 + full.loved(1), 761);
     }
 
     @Says(promise = 30, value = "NONE for another what, no THINGS.")

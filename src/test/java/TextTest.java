@@ -375,6 +375,29 @@ public final class TextTest {
         Check.fault("dead d 0 6 2 101;", 2, 9);
     }
 
+    @Says("FAULTS, the first along the text")
+    static void theFirstOfManyTokens() {
+        for (String token : new String[] {";", "(", ")", "=", "+", "#", "<", "1 ", "a ", "1", "a", "\n"}) {
+            String many = token.repeat(700 / token.length());
+            if (token.equals("\n")) Check.good(many, 0);
+            else Check.fault(many, 1, 0);
+        }
+        String law = "law like ";
+        Check.fault(law + "(".repeat(691), 2, 17);
+        Check.fault(law + "1+".repeat(345), 2, 9 + 64);
+        Check.fault(law + "not ".repeat(172), 2, 9 + 64 * 4);
+        Check.fault(law + "1".repeat(691), 2, 9);
+        Check.fault(law + "0".repeat(691), 1, 700);
+        Check.good(law + "0".repeat(690) + ";", 1);
+        Check.fault("room " + "a".repeat(695), 1, 5);
+        // the most signs of E that wait for what is behind them
+        Check.good(law + "((((((((" + "not ".repeat(63) + "1))))))));", 1);
+        Check.due("63 times not", Check.house("room a;thing t a 0 0;dead d 0 0 0 0;" + law + "((((((((" + "not ".repeat(63) + "1))))))));").law(0, 0, 0), 0);
+        Check.due("62 times", Check.house("room a;thing t a 0 0;dead d 0 0 0 0;" + law + "not ".repeat(62) + "7;").law(0, 0, 0), 1);
+        String deep = "1+(2*(3-(4/(5+(6*(7-(8+(9))))))))";
+        Check.due("eight open", Check.house("room a;thing t a 0 0;dead d 0 0 0 0;" + law + deep + ";").law(0, 0, 0), 7);
+    }
+
     @Says("(of one place the least), with its place:")
     static void theLeastOfOnePlace() {
         // the 65th KNOT, but it can't stand there
@@ -425,6 +448,16 @@ public final class TextTest {
         cut("glass 12;", 7, 1, 7);
         cut("room a;room b;", 9, 1, 7);
         cut("room a;room b;", 11, 1, 11);
+        String whole = "room a;room b;door a b;thing t a 0 0;law like (12<=34)<>(not age);";
+        for (int n = 0; n <= whole.length(); n++) {
+            DeadMonday alone = new DeadMonday();
+            DeadMonday more = Check.house(whole);
+            int got = Check.tell(alone, whole.substring(0, n));
+            Check.due("the first " + n, got >= 0, n == 0 || whole.charAt(n - 1) == ';');
+            Check.feed(more, whole);
+            Check.due("with the rest behind it", more.text(n), got);
+            Check.due("its place", more.fault(0) * 1000 + more.fault(1), alone.fault(0) * 1000 + alone.fault(1));
+        }
         StringBuilder full = new StringBuilder("room a");
         while (full.length() < 700) full.append(' ');
         Check.fault(full.toString(), 1, 700);

@@ -151,6 +151,28 @@ public final class TuesdayTest {
         Check.due("each its own", z.thing(0, 0) * 100 + z.thing(1, 0) * 10 + z.thing(2, 0), 111);
     }
 
+    @Says("(20 at most),")
+    static void theLatestTwenty() {
+        DeadMonday x = Check.house(Check.FULL);
+        x.go(9);
+        String[] seen = new String[40];
+        int done = 0;
+        for (int k = 0; done < 39; k++) {
+            seen[done] = Check.seen(x);
+            int pick = k * 7 % 11;
+            boolean is = pick < 5 ? x.hang(k % 8, (k * k + 3) % 6) : pick < 9 ? x.rope(k * 5 % 6, k % 4 < 2) : done % 9 == 8 ? x.dust(k % 6) : x.hang(7, k % 6);
+            if (is) done++;
+        }
+        Check.due("twenty", x.count(12), 20);
+        for (int k = 19; k >= 0; k--) {
+            Check.due("undo", x.undo(), k);
+            // all but what tells how many can be undone
+            String want = seen[done - 20 + k];
+            Check.same("as it was", Check.seen(x).replaceFirst("[0-9]+ \\|", "|"), want.replaceFirst("[0-9]+ \\|", "|"));
+        }
+        Check.due("no more", x.undo(), -1);
+    }
+
     @Says("if no MONDAY went by since.")
     static void noMondayWentBy() {
         DeadMonday x = Check.house(NowTest.HALL);

@@ -58,6 +58,8 @@ public final class FaceTest {
             Check.due(m + " is public", Modifier.isPublic(m.getModifiers()), true);
             String types = String.join(", ", Arrays.stream(m.getParameterTypes()).map(Class::getName).toList());
             got.add(m.getReturnType().getName() + " " + m.getName() + "(" + types + ")");
+            String thrown = String.join(", ", Arrays.stream(m.getExceptionTypes()).map(Class::getSimpleName).toList());
+            Check.same("what " + m + " throws", thrown, m.getName().equals("thing") ? "IndexOutOfBoundsException, NoSuchElementException" : "");
         }
         TreeSet<String> want = new TreeSet<>(FACE.lines().toList());
         Check.due("methods " + got, got.equals(want), true);
@@ -65,6 +67,7 @@ public final class FaceTest {
         int fields = 0;
         for (Field f : DeadMonday.class.getDeclaredFields()) if (!Modifier.isPrivate(f.getModifiers())) fields++;
         Check.due("one constant", fields, 1);
+        Check.due("NONE", DeadMonday.NONE, -1);
         Constructor<?>[] made = DeadMonday.class.getDeclaredConstructors();
         Check.due("one constructor", made.length, 1);
         Check.due("it is public", Modifier.isPublic(made[0].getModifiers()), true);

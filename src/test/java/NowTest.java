@@ -1,3 +1,5 @@
+import java.math.BigInteger;
+
 /** What is so now, LIKING, VALUES of laws: Terms of ==== 2, promises 6 to 12 and 40. */
 public final class NowTest {
     static final String HALL = "room hall;room den;room loft;door hall den;door den loft;"
@@ -188,6 +190,45 @@ public final class NowTest {
         value(MILLIONS + "*(" + MILLIONS + ")", ERROR);
         value("(0-" + MILLIONS + ")*(" + MILLIONS + ")", ERROR);
         value("(0-" + MILLIONS + ")*(0-" + MILLIONS + ")", ERROR);
+    }
+
+    @Says({"VALUES are longs; comparisons, and, or, not are 1 or 0", "/ is cut towards 0; ERROR: / by 0,"})
+    static void everySignOfTwoNumbers() {
+        long most = 1000000000000L;
+        long[] numbers = {0, 1, -1, 2, -2, 3, -3, 7, -7, 10, -10, 999, -999, 1000000, -1000000, 1000001, -1000001, most - 1, 1 - most, most, -most};
+        String[] signs = {"+", "-", "*", "/", "<", "<=", "=", "<>", ">=", ">", " and ", " or "};
+        for (long a : numbers) {
+            for (long b : numbers) {
+                for (String sign : signs) value("(" + told(a) + ")" + sign + "(" + told(b) + ")", due(a, sign.trim(), b));
+            }
+        }
+    }
+
+    /** A number as E can tell it: in thousands, as N ends with 9999. */
+    private static String told(long number) {
+        if (number < 0) return "0-(" + told(-number) + ")";
+        return number < 1000 ? Long.toString(number) : "(" + told(number / 1000) + ")*1000+" + number % 1000;
+    }
+
+    private static long due(long a, String sign, long b) {
+        BigInteger one = BigInteger.valueOf(a);
+        BigInteger other = BigInteger.valueOf(b);
+        int c = one.compareTo(other);
+        if (sign.equals("/") && b == 0) return ERROR;
+        BigInteger v = switch (sign) {
+            case "+" -> one.add(other);
+            case "-" -> one.subtract(other);
+            case "*" -> one.multiply(other);
+            case "/" -> one.divide(other);
+            case "and" -> truth(a != 0 && b != 0);
+            case "or" -> truth(a != 0 || b != 0);
+            default -> truth(c < 0 ? sign.contains("<") : c > 0 ? sign.contains(">") : sign.contains("="));
+        };
+        return v.abs().compareTo(BigInteger.TEN.pow(12)) > 0 ? ERROR : v.longValueExact();
+    }
+
+    private static BigInteger truth(boolean is) {
+        return is ? BigInteger.ONE : BigInteger.ZERO;
     }
 
     @Says({"E: A { or A }. A: B { and B }. B: not B | C. C: S [", "S: T { ( + | - ) T }. T: P { ( * | / ) P }."})
